@@ -25,8 +25,8 @@ public final class RainVault {
     private static final int LONGEST_SPELL = 100;
     private static final int SIDES = 4;
     private static final int SIGNS = 5;
+    private static final int AMOUNT_OF_RAINS = 3;
     private static final int SPOTS = 10;
-    private static final int SHEETS = 4;
 
     /** What is told of a CISTERN, by the numbers that of() and change() have for it. */
     private static final int KIND = 0;
@@ -48,9 +48,8 @@ public final class RainVault {
     private static final int FROZEN = 5;
     private static final int ICE = 6;
     private static final int MOST_KIND = 6;
-    /** The KIND above each; CISTERN stands at the top and above itself. */
-    private static final int[] KIND_ABOVE = {0, 0, 0, 1, 2, 0, 5};
-    private static final int KIND_STEPS = 2;
+    /** For each KIND the set of all that it is one of: itself and those above it. */
+    private static final int[] KINDS_OF = {0b1, 0b11, 0b101, 0b1011, 0b10101, 0b100001, 0b1100001};
 
     /** What is told of a CONDITION, by the numbers that lockOf() has for it. */
     private static final int SORT = 0;
@@ -304,7 +303,8 @@ public final class RainVault {
     // ---- heirs and thieves
 
     public int buckets() {
-        int fewest = carrier.fewest(roof, -1);
+        trial.become(roof);
+        int fewest = carrier.fewest();
         return fewest < 0 ? finding(NONE) : fewest;
     }
 
@@ -312,7 +312,8 @@ public final class RainVault {
         if (!isWithin(i, 0, MOST_BUCKETS - 1)) {
             return finding(BEYOND);
         }
-        if (i >= carrier.fewest(roof, -1)) {
+        trial.become(roof);
+        if (i >= carrier.fewest()) {
             return finding(NONE);
         }
         return at(carrier.way, i);
@@ -325,8 +326,13 @@ public final class RainVault {
         }
         for (int many = 0; many <= roof.cisterns; many++) {
             for (int set = 0; set < (1 << roof.cisterns); set++) {
-                if (Integer.bitCount(set) == many && opensUnderCloths(set, side, amount, n)) {
-                    return set;
+                if (Integer.bitCount(set) == many) {
+                    trial.become(roof);
+                    trial.coverJust(set);
+                    trial.passHours(side, amount, n);
+                    if (trial.isOpen()) {
+                        return set;
+                    }
                 }
             }
         }
@@ -355,10 +361,13 @@ public final class RainVault {
     }
 
     public int weak() {
-        int all = carrier.fewest(roof, -1);
+        trial.become(roof);
+        int all = carrier.fewest();
         int set = 0;
         for (int i = 0; i < roof.conditions; i++) {
-            if (carrier.fewest(roof, i) != all) {
+            trial.become(roof);
+            trial.removeCondition(i);
+            if (carrier.fewest() != all) {
                 set |= 1 << i;
             }
         }
@@ -667,17 +676,8 @@ public final class RainVault {
         return isTooLate(n) ? STATE : 0;
     }
 
-    private boolean opensUnderCloths(int set, int side, int amount, int n) {
-        trial.become(roof);
-        for (int c = 0; c < trial.cisterns; c++) {
-            trial.set(c, CLOTH, (set >> c) & 1);
-        }
-        trial.passHours(side, amount, n);
-        return trial.isOpen();
-    }
-
     private Sheet sheetAt(int s) {
-        return s >= 0 && s < SHEETS && s < sheets.length ? sheets[s] : null;
+        return s >= 0 && s < sheets.length ? sheets[s] : null;
     }
 
     private static boolean hasLevelsOf(Roof roof, Sheet sheet) {
@@ -697,6 +697,11 @@ public final class RainVault {
     /** The most that b of a CONDITION of a SORT may be: with most SORTS it is the number of a CISTERN. */
     private static int mostRight(int sort) {
         return sort == LESS_THAN_NUMBER ? MOST_HEIGHT : MOST_CISTERNS - 1;
+    }
+
+    /** The SIDE of an hour's SIGN; a dry hour has none, and any will do for it. */
+    private static int sideOf(int sign) {
+        return sign > 0 ? sign - 1 : 0;
     }
 
     private static boolean isWithin(int v, int least, int most) {
@@ -746,11 +751,15 @@ public final class RainVault {
         }
 
         int get(int c, int what) {
-            return at(facts, c * FACTS + what);
+            int i = c * FACTS + what;
+            return i >= 0 && i < facts.length ? facts[i] : 0;
         }
 
         void set(int c, int what, int v) {
-            put(facts, c * FACTS + what, v);
+            int i = c * FACTS + what;
+            if (i >= 0 && i < facts.length) {
+                facts[i] = v;
+            }
         }
 
         int addCistern(int kind, int height) {
@@ -778,18 +787,11 @@ public final class RainVault {
         /** Whether a CISTERN is of a KIND, or of one under it. */
         boolean isOf(int c, int wanted) {
             int kind = get(c, KIND);
-            for (int step = 0; step < KIND_STEPS && kind != wanted; step++) {
-                kind = at(KIND_ABOVE, kind);
-            }
-            return kind == wanted;
-        }
-
-        private boolean isFrozenNow(int c) {
-            return isCold && isOf(c, FROZEN);
+            return kind >= 0 && kind < KINDS_OF.length && ((KINDS_OF[kind] >> wanted) & 1) == 1;
         }
 
         int caught(int c, int side, int amount) {
-            if (get(c, CLOTH) == 1 || isFrozenNow(c)) {
+            if (get(c, CLOTH) == 1 || isCold && isOf(c, FROZEN)) {
                 return 0;
             }
             int water = amount * get(c, CATCH + side);
@@ -797,7 +799,7 @@ public final class RainVault {
         }
 
         private int leaked(int c) {
-            if (isFrozenNow(c) || isOf(c, ICE)) {
+            if (isOf(c, ICE) || isCold && isOf(c, FROZEN)) {
                 return 0;
             }
             return Math.min(get(c, LEAK), get(c, LEVEL));
@@ -836,12 +838,12 @@ public final class RainVault {
             return set;
         }
 
-        private void raise(int c, int water) {
+        void raise(int c, int water) {
             set(c, LEVEL, get(c, LEVEL) + water);
         }
 
-        private void runOver(int c) {
-            int water = runningOver(c);
+        /** Water leaves a CISTERN by its GUTTER. */
+        private void runOver(int c, int water) {
             int end = gutterEnd(c);
             raise(c, -water);
             if (end >= 0) {
@@ -863,7 +865,7 @@ public final class RainVault {
                 raise(c, caught(c, side, amount));
             }
             for (int c = 0; c < cisterns; c++) {
-                runOver(c);
+                runOver(c, runningOver(c));
             }
             for (int c = 0; c < cisterns; c++) {
                 spill(c);
@@ -888,16 +890,19 @@ public final class RainVault {
 
         void passDrawnHour() {
             int sign = draw() % SIGNS;
-            if (sign == 0) {
-                passHour(0, 0);
-            } else {
-                passHour(sign - 1, draw() % 10);
-            }
+            int amount = sign == 0 ? 0 : draw() % 10;
+            passHour(sideOf(sign), amount);
         }
 
         int draw() {
             z = z * 1103515245 + 12345;
             return z >>> 8;
+        }
+
+        void coverJust(int set) {
+            for (int c = 0; c < cisterns; c++) {
+                set(c, CLOTH, (set >> c) & 1);
+            }
         }
 
         int levelsTogether() {
@@ -965,13 +970,8 @@ public final class RainVault {
         }
 
         boolean isOpen() {
-            return isOpenWithout(-1);
-        }
-
-        /** Whether all CONDITIONS hold but one that doesn't count (-1: all count). */
-        boolean isOpenWithout(int condition) {
             for (int i = 0; i < conditions; i++) {
-                if (i != condition && !holds(i)) {
+                if (!holds(i)) {
                     return false;
                 }
             }
@@ -1033,16 +1033,9 @@ public final class RainVault {
             }
             trial.takeLevels(levels, changed * MOST_CISTERNS);
             for (int i = changed; i < hours; i++) {
-                passSign(at(signs, i));
+                int sign = at(signs, i);
+                trial.passHour(sideOf(sign), sign == 0 ? 0 : AMOUNT_OF_RAINS);
                 trial.keepLevels(levels, (i + 1) * MOST_CISTERNS);
-            }
-        }
-
-        private void passSign(int sign) {
-            if (sign == 0) {
-                trial.passHour(0, 0);
-            } else {
-                trial.passHour(sign - 1, 3);
             }
         }
 
@@ -1071,7 +1064,7 @@ public final class RainVault {
                 int sign = at(signs, i);
                 if (sign > 0) {
                     wet++;
-                    sides |= 1 << (sign - 1);
+                    sides |= 1 << sideOf(sign);
                 }
             }
             fewestWet = Math.min(fewestWet, wet);
@@ -1081,7 +1074,8 @@ public final class RainVault {
 
     /** Buckets carried by night: the fewest that open, and the way of them that is the least. */
     private static final class Carrier {
-        private static final int MOST_WAYS = 1000000;
+        /** More than there are ways of so few buckets into so few CISTERNS. */
+        private static final int MOST_WAYS = 1000;
         private final Roof trial;
         private final int[] levels = new int[MOST_CISTERNS];
         private final int[] way = new int[MOST_BUCKETS];
@@ -1090,47 +1084,30 @@ public final class RainVault {
             this.trial = trial;
         }
 
-        /** The fewest buckets, or -1; one CONDITION doesn't count (-1: all count). */
-        int fewest(Roof now, int without) {
-            trial.become(now);
+        /** The fewest buckets that open the trial roof as it stands, or -1, if there is no way with so few. */
+        int fewest() {
             trial.keepLevels(levels, 0);
             for (int n = 0; n <= MOST_BUCKETS; n++) {
-                if (findWay(n, without)) {
-                    return n;
+                boolean isLeft = true;
+                beginWays();
+                for (int i = 0; i < MOST_WAYS && isLeft; i++) {
+                    if (carryOnTrial(n) && trial.isOpen()) {
+                        return n;
+                    }
+                    isLeft = nextWay(n);
                 }
             }
             return -1;
         }
 
-        /** Goes through the ways of n buckets, each told by rising numbers of CISTERNS, from the least on. */
-        private boolean findWay(int n, int without) {
+        /** The ways of n buckets, each told by rising numbers of CISTERNS, are gone through from the least on. */
+        private void beginWays() {
             for (int i = 0; i < way.length; i++) {
                 way[i] = 0;
             }
-            for (int tried = 0; tried < MOST_WAYS; tried++) {
-                if (opens(n, without)) {
-                    return true;
-                }
-                if (!stepOn(n)) {
-                    return false;
-                }
-            }
-            return false;
         }
 
-        private boolean opens(int n, int without) {
-            trial.takeLevels(levels, 0);
-            for (int i = 0; i < n; i++) {
-                int c = at(way, i);
-                if (!trial.hasCistern(c) || !trial.mayBecome(c, LEVEL, trial.get(c, LEVEL) + 1)) {
-                    return false;
-                }
-                trial.raise(c, 1);
-            }
-            return trial.isOpenWithout(without);
-        }
-
-        private boolean stepOn(int n) {
+        private boolean nextWay(int n) {
             for (int i = n - 1; i >= 0; i--) {
                 int c = at(way, i) + 1;
                 if (trial.hasCistern(c)) {
@@ -1142,108 +1119,230 @@ public final class RainVault {
             }
             return false;
         }
+
+        /** Whether there is room for all of the buckets. */
+        private boolean carryOnTrial(int n) {
+            trial.takeLevels(levels, 0);
+            for (int i = 0; i < n; i++) {
+                int c = at(way, i);
+                if (!trial.hasCistern(c) || trial.get(c, LEVEL) >= trial.get(c, HEIGHT)) {
+                    return false;
+                }
+                trial.raise(c, 1);
+            }
+            return true;
+        }
     }
 
-    /** Reads a TEXT from THE TAPE; what it tells is made so on a draft, which is the roof's copy. */
-    private static final class TextReader {
-        private static final int END = 0;
-        private static final int WORD = 1;
-        private static final int NUMBER = 2;
-        private static final int SEMICOLON = 3;
-        private static final int OTHER = 4;
+    /** THE TAPE cut into TOKENS; behind the last one all are END, at the place behind the last byte. */
+    private static final class Tokens {
+        /** Sorts of TOKENS: the KINDS' own numbers are those of their WORDS, the other WORDS' go on from there. */
+        private static final int HIGH_WORD = 7;
+        private static final int LEVEL_WORD = 8;
+        private static final int LEAK_WORD = 9;
+        private static final int TO_WORD = 10;
+        private static final int CATCH_WORD = 11;
+        private static final int LOCK_WORD = 12;
+        private static final int COLD_WORD = 13;
+        private static final int WARM_WORD = 14;
+        private static final int WORDS = 15;
+        private static final int NUMBER = 15;
+        private static final int SEMICOLON = 16;
+        private static final int END = 17;
+        /** Another WORD, or a byte that begins no TOKEN: it can't stand anywhere. */
+        private static final int NOTHING = 18;
         /** Stands for every NUMBER that is too great for any place. */
         private static final int TOO_GREAT = 1000;
 
         private final int[] tape;
-        private final Roof draft;
+        private final int[] sorts = new int[MOST_BYTES + 1];
+        private final int[] starts = new int[MOST_BYTES + 1];
+        private final int[] values = new int[MOST_BYTES + 1];
         private int length = 0;
         private int place = 0;
-        private int tokenSort = END;
-        private int tokenStart = 0;
-        private int tokenValue = 0;
+
+        Tokens(int[] tape) {
+            this.tape = tape;
+        }
+
+        void cut(int bytes) {
+            length = Math.min(bytes, tape.length);
+            place = 0;
+            for (int i = 0; i < starts.length; i++) {
+                while (place < length && at(tape, place) == ' ') {
+                    place++;
+                }
+                starts[i] = place;
+                put(values, i, 0);
+                put(sorts, i, cutToken(i));
+            }
+        }
+
+        /** Goes behind the TOKEN that begins at the place now: its sort. */
+        private int cutToken(int i) {
+            if (place >= length) {
+                return END;
+            }
+            int start = place;
+            if (isLetter(at(tape, start))) {
+                while (place < length && isLetter(at(tape, place))) {
+                    place++;
+                }
+                return sortOfWord(start);
+            }
+            if (isDigit(at(tape, start))) {
+                put(values, i, cutNumber());
+                return NUMBER;
+            }
+            place++;
+            return at(tape, start) == ';' ? SEMICOLON : NOTHING;
+        }
+
+        private int cutNumber() {
+            int value = 0;
+            while (place < length && isDigit(at(tape, place))) {
+                value = Math.min(TOO_GREAT, 10 * value + at(tape, place) - '0');
+                place++;
+            }
+            return value;
+        }
+
+        private int sortOfWord(int start) {
+            for (int word = 0; word < WORDS; word++) {
+                if (isFromTo(start, letters(word))) {
+                    return word;
+                }
+            }
+            return NOTHING;
+        }
+
+        private boolean isFromTo(int start, String letters) {
+            if (place - start != letters.length()) {
+                return false;
+            }
+            for (int i = 0; i < letters.length(); i++) {
+                if (at(tape, start + i) != letters.charAt(i)) {
+                    return false;
+                }
+            }
+            return true;
+        }
+
+        private static String letters(int word) {
+            switch (word) {
+                case SIPHON:
+                    return "siphon";
+                case SLOW:
+                    return "slow";
+                case TIPPED:
+                    return "tipped";
+                case FALSE:
+                    return "false";
+                case FROZEN:
+                    return "frozen";
+                case ICE:
+                    return "ice";
+                case HIGH_WORD:
+                    return "high";
+                case LEVEL_WORD:
+                    return "level";
+                case LEAK_WORD:
+                    return "leak";
+                case TO_WORD:
+                    return "to";
+                case CATCH_WORD:
+                    return "catch";
+                case LOCK_WORD:
+                    return "lock";
+                case COLD_WORD:
+                    return "cold";
+                case WARM_WORD:
+                    return "warm";
+                default:
+                    return "cistern";
+            }
+        }
+
+        private static boolean isLetter(int b) {
+            return b >= 'a' && b <= 'z';
+        }
+
+        private static boolean isDigit(int b) {
+            return b >= '0' && b <= '9';
+        }
+    }
+
+    /** Reads a TEXT from TOKENS; what it tells is made so on a draft, which begins as a copy of the roof. */
+    private static final class TextReader {
+        private final Tokens tokens;
+        private final Roof draft;
+        /** The TOKEN that is looked at; it stays at the first one that can't stand there. */
+        private int now = 0;
         /** The NUMBER that was taken last. */
         private int taken = 0;
 
         TextReader(int[] tape, Roof draft) {
-            this.tape = tape;
+            this.tokens = new Tokens(tape);
             this.draft = draft;
         }
 
-        /** How many ITEMS, or -1 less the FAULT, which is where the TOKEN now looked at begins. */
+        /** How many ITEMS, or -1 less the FAULT. */
         int read(int bytes) {
-            length = Math.min(bytes, tape.length);
-            place = 0;
-            nextToken();
-            for (int items = 1; items <= length && readItem(); items++) {
-                if (tokenSort == END) {
+            tokens.cut(bytes);
+            now = 0;
+            for (int items = 1; items <= MOST_BYTES && readItem(); items++) {
+                if (sortNow() == Tokens.END) {
                     return items;
                 }
-                if (tokenSort != SEMICOLON) {
+                if (sortNow() != Tokens.SEMICOLON) {
                     break;
                 }
-                nextToken();
+                now++;
             }
-            return -1 - tokenStart;
+            return -1 - at(tokens.starts, now);
+        }
+
+        private int sortNow() {
+            return at(tokens.sorts, now);
         }
 
         private boolean readItem() {
-            int kind = kindOfWord();
-            if (kind >= 0) {
-                return readCistern(kind);
+            int sort = sortNow();
+            if (sort <= MOST_KIND) {
+                return readCistern(sort);
             }
-            if (isWord("catch")) {
-                return readCatch();
+            switch (sort) {
+                case Tokens.CATCH_WORD:
+                    return readCatch();
+                case Tokens.LOCK_WORD:
+                    return readLock();
+                case Tokens.COLD_WORD:
+                case Tokens.WARM_WORD:
+                    draft.isCold = sort == Tokens.COLD_WORD;
+                    now++;
+                    return true;
+                default:
+                    return false;
             }
-            if (isWord("lock")) {
-                return readLock();
-            }
-            if (isWord("cold") || isWord("warm")) {
-                draft.isCold = isWord("cold");
-                nextToken();
-                return true;
-            }
-            return false;
-        }
-
-        private int kindOfWord() {
-            if (isWord("cistern")) {
-                return 0;
-            }
-            if (isWord("siphon")) {
-                return SIPHON;
-            }
-            if (isWord("slow")) {
-                return SLOW;
-            }
-            if (isWord("tipped")) {
-                return TIPPED;
-            }
-            if (isWord("false")) {
-                return FALSE;
-            }
-            if (isWord("frozen")) {
-                return FROZEN;
-            }
-            return isWord("ice") ? ICE : -1;
         }
 
         private boolean readCistern(int kind) {
             if (draft.cisterns >= MOST_CISTERNS) {
                 return false;
             }
-            nextToken();
-            if (!takePart("high", 1, MOST_HEIGHT, 10)) {
+            now++;
+            if (!takePart(Tokens.HIGH_WORD, 1, MOST_HEIGHT, 10)) {
                 return false;
             }
             int height = taken;
             int c = draft.addCistern(kind, height);
-            return takePart("level", 0, height, 0) && setTaken(c, LEVEL)
-                    && takePart("leak", 0, MOST_DIGIT, 1) && setTaken(c, LEAK)
-                    && takePart("to", 0, MOST_CISTERNS - 1, -1) && setTaken(c, GUTTER);
+            return takePart(Tokens.LEVEL_WORD, 0, height, 0) && setTaken(c, LEVEL)
+                    && takePart(Tokens.LEAK_WORD, 0, MOST_DIGIT, 1) && setTaken(c, LEAK)
+                    && takePart(Tokens.TO_WORD, 0, MOST_CISTERNS - 1, -1) && setTaken(c, GUTTER);
         }
 
         private boolean readCatch() {
-            nextToken();
+            now++;
             if (!takeNumber(0, draft.cisterns - 1)) {
                 return false;
             }
@@ -1261,7 +1360,7 @@ public final class RainVault {
             if (draft.conditions >= MOST_CONDITIONS) {
                 return false;
             }
-            nextToken();
+            now++;
             if (!takeNumber(MORE_THAN, LESS_THAN_NUMBER)) {
                 return false;
             }
@@ -1278,9 +1377,9 @@ public final class RainVault {
         }
 
         /** A part that may be left out: its WORD and a NUMBER. */
-        private boolean takePart(String word, int least, int most, int otherwise) {
-            if (isWord(word)) {
-                nextToken();
+        private boolean takePart(int word, int least, int most, int otherwise) {
+            if (sortNow() == word) {
+                now++;
                 return takeNumber(least, most);
             }
             taken = otherwise;
@@ -1288,66 +1387,18 @@ public final class RainVault {
         }
 
         private boolean takeNumber(int least, int most) {
-            if (tokenSort != NUMBER || !isWithin(tokenValue, least, most)) {
+            int value = at(tokens.values, now);
+            if (at(tokens.sorts, now) != Tokens.NUMBER || !isWithin(value, least, most)) {
                 return false;
             }
-            taken = tokenValue;
-            nextToken();
+            taken = value;
+            now++;
             return true;
         }
 
         private boolean setTaken(int c, int what) {
             draft.set(c, what, taken);
             return true;
-        }
-
-        private void nextToken() {
-            while (place < length && at(tape, place) == ' ') {
-                place++;
-            }
-            tokenStart = place;
-            if (place >= length) {
-                tokenSort = END;
-            } else if (isLetter(at(tape, place))) {
-                tokenSort = WORD;
-                while (place < length && isLetter(at(tape, place))) {
-                    place++;
-                }
-            } else if (isDigit(at(tape, place))) {
-                tokenSort = NUMBER;
-                readDigits();
-            } else {
-                tokenSort = at(tape, place) == ';' ? SEMICOLON : OTHER;
-                place++;
-            }
-        }
-
-        private void readDigits() {
-            tokenValue = 0;
-            while (place < length && isDigit(at(tape, place))) {
-                tokenValue = Math.min(TOO_GREAT, 10 * tokenValue + at(tape, place) - '0');
-                place++;
-            }
-        }
-
-        private boolean isWord(String word) {
-            if (tokenSort != WORD || place - tokenStart != word.length()) {
-                return false;
-            }
-            for (int i = 0; i < word.length(); i++) {
-                if (at(tape, tokenStart + i) != word.charAt(i)) {
-                    return false;
-                }
-            }
-            return true;
-        }
-
-        private static boolean isLetter(int b) {
-            return isWithin(b, 'a', 'z');
-        }
-
-        private static boolean isDigit(int b) {
-            return isWithin(b, '0', '9');
         }
     }
 

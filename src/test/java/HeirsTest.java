@@ -211,6 +211,10 @@ public final class HeirsTest {
         RainVault x = new RainVault();
         Check.due("cat()", x.cat(), Check.STATE);
         Check.due("no draw", x.count(6), 1);
+        RainVault y = Check.vault("cistern");
+        Check.due("one CISTERN", y.cat(), 0);
+        Check.due("to itself", y.of(0, 4), 0);
+        Check.due("two draws", y.count(6), (1103515245 + 12345) * 1103515245 + 12345);
         for (int c = 0; c < 5; c++) {
             x.cistern(0, 10);
         }

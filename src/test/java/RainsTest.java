@@ -49,7 +49,10 @@ public final class RainsTest {
         Check.due("z first", z.first(2, 0) * 10 + z.first(2, 1), 21);
         Check.due("z driest", z.driest(2), 2);
         Check.due("z needed", z.needed(2), 3);
-        RainVault w = Check.vault("cistern high 6 leak 0;catch 0 1 0 0 2;lock 3 0 0");
+        String text = "cistern high 6 leak 0;catch 0 1 0 0 2;lock 3 0 0";
+        Check.due("driest, asked first", Check.vault(text).driest(1), 1);
+        Check.due("needed, asked first", Check.vault(text).needed(1), 8);
+        RainVault w = Check.vault(text);
         Check.due("the first of 2", w.first(2, 0) * 10 + w.first(2, 1), 4);
         w.change(0, 10, 0);
         Check.due("the first of 2 then", w.first(2, 0) * 10 + w.first(2, 1), 11);

@@ -145,6 +145,10 @@ public final class TextTest {
         cistern(x, 1, 6, 9, 8, 7, 6, 0, 8, 1, 2, 3, 4);
         fault("icehigh 9", 0);
         fault("ices", 0);
+        fault("gold", 0);
+        fault("warn", 0);
+        fault("wurm", 0);
+        fault("ice hich 9", 4);
         fault("ic", 0);
         fault("Ice", 0);
         fault("ice high 1000", 9);
@@ -206,6 +210,10 @@ public final class TextTest {
         }
         Check.due("a 9th CONDITION", Check.told(x, "cold;  lock 9 9 9"), -8);
         Check.due("others go on", Check.told(x, "catch 7 2 2 2 2;cold"), 2);
+        RainVault w = new RainVault();
+        Check.due("120 TOKENS", Check.told(w, ";".repeat(120)), -1);
+        Check.due("a TEXT of 120 bytes", Check.told(w, "ice" + " ".repeat(112) + ";cold"), 2);
+        Check.due("120 bytes, too early", Check.told(w, "ice" + " ".repeat(116) + ";"), -121);
         RainVault y = Check.vault("ice;ice;ice");
         Check.due("a 9th of the text and the roof", Check.told(y, "ice;ice;ice;ice;ice;ice"), -21);
         Check.due("none came", y.count(1), 3);
