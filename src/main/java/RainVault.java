@@ -1173,7 +1173,6 @@ public final class RainVault {
                     place++;
                 }
                 starts[i] = place;
-                put(values, i, 0);
                 put(sorts, i, cutToken(i));
             }
         }
