@@ -59,6 +59,9 @@ final class Check {
     }
 
     private static void tell(RainVault x, String text) {
+        if (text.isEmpty()) {
+            return;
+        }
         for (String item : text.split(";")) {
             due("text() for " + item, told(x, item), 1);
         }
@@ -71,9 +74,7 @@ final class Check {
             x.rain(0, 0, Math.min(100, left));
         }
         due("late HOUR", x.count(0), hour);
-        if (!text.isEmpty()) {
-            tell(x, text);
-        }
+        tell(x, text);
         return x;
     }
 
