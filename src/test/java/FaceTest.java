@@ -6,6 +6,8 @@ import java.nio.file.Files;
 import java.nio.file.Path;
 import java.util.Set;
 import java.util.TreeSet;
+import java.util.regex.Matcher;
+import java.util.regex.Pattern;
 
 /** The face of the document, and those rules of LANGUAGE.md that can be seen from outside or in single words. */
 public final class FaceTest {
@@ -18,6 +20,7 @@ public final class FaceTest {
         face();
         names();
         words();
+        library();
         Check.end();
     }
 
@@ -61,8 +64,7 @@ public final class FaceTest {
     }
 
     private static void words() throws IOException {
-        String source = Files.readString(Path.of("src/main/java/RainVault.java"));
-        String code = source.replaceAll("(?s)/\\*.*?\\*/", " ").replaceAll("//[^\n]*", " ").replaceAll("\"[^\"\n]*\"", " ");
+        String code = code();
         String[] ruledOut = {"throw", "throws", "try", "catch", "synchronized", "assert", "import", "package", "new Object",
             "System.out", "System.err", "Thread", "Random", "nanoTime", "currentTimeMillis", "->", "::", "double", "float"};
         for (String word : ruledOut) {
@@ -70,5 +72,25 @@ public final class FaceTest {
             boolean stands = isWord ? code.matches("(?s).*\\b" + word + "\\b.*") : code.contains(word);
             Check.same("ruled out", stands ? word : "", "");
         }
+    }
+
+    /** Rule 4: no class of the library but those that the program needs, and of them only what is listed. */
+    private static void library() throws IOException {
+        Set<String> own = new TreeSet<>(Set.of("RainVault", "String"));
+        for (Class<?> inner : RainVault.class.getDeclaredClasses()) {
+            own.add(inner.getSimpleName());
+        }
+        Set<String> listed = Set.of("Math.min", "Math.max", "Integer.bitCount", "System.arraycopy");
+        Matcher name = Pattern.compile("\\b[A-Z]+[a-z]\\w*(\\.\\w+)?").matcher(code());
+        while (name.find()) {
+            boolean isOwn = own.contains(name.group().replaceFirst("\\..*", ""));
+            Check.same("a name of the library", isOwn || listed.contains(name.group()) ? "" : name.group(), "");
+        }
+    }
+
+    /** The source without comments and texts. */
+    private static String code() throws IOException {
+        String source = Files.readString(Path.of("src/main/java/RainVault.java"));
+        return source.replaceAll("(?s)/\\*.*?\\*/", " ").replaceAll("//[^\n]*", " ").replaceAll("\"[^\"\n]*\"", " ");
     }
 }

@@ -35,6 +35,19 @@ final class PlainRoof {
         return t;
     }
 
+    /** A new CISTERN, as at first but for its KIND and HEIGHT: its number. */
+    int add(int itsKind, int itsHeight) {
+        int c = cisterns++;
+        kind[c] = itsKind;
+        height[c] = itsHeight;
+        level[c] = 0;
+        leak[c] = 1;
+        gutter[c] = -1;
+        cloth[c] = 0;
+        catches[c] = new int[] {1, 1, 1, 1};
+        return c;
+    }
+
     /** The same roof, built by calls of the class. */
     RainVault vault() {
         RainVault x = new RainVault();
@@ -111,6 +124,25 @@ final class PlainRoof {
             t.hour(side, amount);
         }
         return t;
+    }
+
+    /** In how many of n HOURS it is open as they end. */
+    int opens(int side, int amount, int n) {
+        PlainRoof t = twin();
+        int opens = 0;
+        for (int i = 0; i < n; i++) {
+            t.hour(side, amount);
+            opens += t.open() ? 1 : 0;
+        }
+        return opens;
+    }
+
+    int levels() {
+        int all = 0;
+        for (int c = 0; c < cisterns; c++) {
+            all += level[c];
+        }
+        return all;
     }
 
     /** Behind a RAIN told by its number among all of n hours. */
